@@ -32,11 +32,11 @@ public final class Linkwright {
     private static final char SQUARES = 'p';
 
     private final ArrayList<Link> links = new ArrayList<Link>();
+    private final ArrayList<Link> linksByLevel = new ArrayList<Link>();
     private final ArrayList<Cam> cams = new ArrayList<Cam>();
     private final ArrayList<Drum> drums = new ArrayList<Drum>();
     private final int[] driverOf = new int[MOST_SHAFTS];
     private final int[] levels = new int[MOST_SHAFTS];
-    private final int[] order = new int[MOST_LINKS];
     private final boolean[] reached = new boolean[MOST_SHAFTS];
     private final boolean[] blocked = new boolean[MOST_SHAFTS];
     private final FractionRow shares = new FractionRow(MOST_SHAFTS);
@@ -73,7 +73,7 @@ public final class Linkwright {
         if (from == to) {
             throw new UnsupportedOperationException("both shafts are the same");
         }
-        return addLink(new Link(kind, from, NONE, to, a, b));
+        return addLink(new Link(links.size(), kind, from, NONE, to, a, b));
     }
 
     public int planets(int sun, int ring, int to, int a, int b)
@@ -87,7 +87,7 @@ public final class Linkwright {
         if (sun == ring || sun == to || ring == to) {
             throw new UnsupportedOperationException("two shafts are the same");
         }
-        return addLink(new Link(PLANETS, sun, ring, to, a, b));
+        return addLink(new Link(links.size(), PLANETS, sun, ring, to, a, b));
     }
 
     public boolean engage(int link, boolean is) throws IndexOutOfBoundsException, UnsupportedOperationException {
@@ -97,7 +97,7 @@ public final class Linkwright {
         }
         boolean was = one.engaged;
         one.engaged = is;
-        now.setActs(link, one.doesAct());
+        now.setActs(one, one.doesAct());
         return was;
     }
 
@@ -189,7 +189,7 @@ public final class Linkwright {
         }
         one.broken = false;
         wear.put(link, 0, 1);
-        now.begin(link, one);
+        now.begin(one);
         return countBroken();
     }
 
@@ -476,12 +476,11 @@ public final class Linkwright {
         if (links.size() >= MOST_LINKS) {
             throw new IllegalStateException("there are 16 links");
         }
-        int number = links.size();
         links.add(one);
-        driverOf[one.to] = number;
-        now.begin(number, one);
+        driverOf[one.to] = one.number;
+        now.begin(one);
         sortLinks();
-        return number;
+        return one.number;
     }
 
     /** Finds how far each shaft is behind the inputs; a round of links climbs over the limit too. */
@@ -513,12 +512,12 @@ public final class Linkwright {
 
     /** Orders the links so that each stands behind those that drive its first shafts. */
     private void sortLinks() {
-        int count = 0;
+        linksByLevel.clear();
         for (int level = 1; level <= MOST_BEHIND; level++) {
             for (int i = 0; i < links.size(); i++) {
-                if (levels[links.get(i).to] == level && count < order.length) {
-                    order[count] = i;
-                    count++;
+                Link one = links.get(i);
+                if (levels[one.to] == level) {
+                    linksByLevel.add(one);
                 }
             }
         }
@@ -556,8 +555,8 @@ public final class Linkwright {
             reached[i] = i == input;
             blocked[i] = false;
         }
-        for (int i = 0; i < links.size(); i++) {
-            spread(links.get(order[i]));
+        for (int i = 0; i < linksByLevel.size(); i++) {
+            spread(linksByLevel.get(i));
         }
         if (blocked[shaft]) {
             throw new UnsupportedOperationException("a geneva or ratchet is on a way");
@@ -576,8 +575,8 @@ public final class Linkwright {
     private void findSlacks(int shaft) {
         checkShaft(shaft);
         shares.reset();
-        for (int i = 0; i < links.size(); i++) {
-            Link one = links.get(order[i]);
+        for (int i = 0; i < linksByLevel.size(); i++) {
+            Link one = linksByLevel.get(i);
             shares.put(one.to, one.ownSlack, 1);
             one.carry(shares, Math.abs(one.over()));
         }
@@ -587,15 +586,15 @@ public final class Linkwright {
 
     private void takeStep(Motion motion, int input, int way) {
         motion.turnInput(input, way);
-        for (int i = 0; i < links.size(); i++) {
-            motion.follow(order[i], links.get(order[i]));
+        for (int i = 0; i < linksByLevel.size(); i++) {
+            motion.follow(linksByLevel.get(i));
         }
     }
 
     private void countWear() {
         for (int i = 0; i < links.size(); i++) {
-            if (now.acts[i]) {
-                Link one = links.get(i);
+            Link one = links.get(i);
+            if (now.doesAct(one)) {
                 wearBy(i, one.first);
                 wearBy(i, one.second);
             }
@@ -622,7 +621,7 @@ public final class Linkwright {
             Link one = links.get(i);
             if (one.turnsToLive > 0 && wear.overAt(i) > one.turnsToLive * wear.underAt(i)) {
                 one.broken = true;
-                now.setActs(i, false);
+                now.setActs(one, false);
             }
         }
     }
@@ -807,17 +806,17 @@ public final class Linkwright {
 
         /** Answers so many times a fraction, rounded down. */
         long wholeTimes(int at, long times) {
-            long over = overAt(at);
-            long under = underAt(at);
-            if (under <= 0) {
+            if (!has(at) || unders[at] <= 0) {
                 return 0;
             }
-            return Math.floorDiv(over, under) * times + Math.floorDiv(Math.floorMod(over, under) * times, under);
+            long rest = Math.floorMod(overs[at], unders[at]);
+            return Math.floorDiv(overs[at], unders[at]) * times + Math.floorDiv(rest * times, unders[at]);
         }
     }
 
     /** A link of shafts; the second shaft is the ring of planets. */
     private static final class Link {
+        final int number;
         final char kind;
         final int first;
         final int second;
@@ -829,7 +828,8 @@ public final class Linkwright {
         int turnsToLive;
         int ownSlack;
 
-        Link(char kind, int first, int second, int to, int a, int b) {
+        Link(int number, char kind, int first, int second, int to, int a, int b) {
+            this.number = number;
             this.kind = kind;
             this.first = first;
             this.second = second;
@@ -893,16 +893,25 @@ public final class Linkwright {
             }
         }
 
-        void setActs(int number, boolean is) {
-            if (number >= 0 && number < MOST_LINKS) {
-                acts[number] = is;
+        private static boolean has(Link one) {
+            return one.number >= 0 && one.number < MOST_LINKS;
+        }
+
+        boolean doesAct(Link one) {
+            return has(one) && acts[one.number];
+        }
+
+        void setActs(Link one, boolean is) {
+            if (has(one)) {
+                acts[one.number] = is;
             }
         }
 
-        void begin(int number, Link one) {
-            if (number >= 0 && number < MOST_LINKS) {
-                acts[number] = one.doesAct();
-                marks[number] = place.wholeTimes(one.first, one.a);
+        /** Lets a link act from here on: a ratchet turns only as it comes farther than it is now. */
+        void begin(Link one) {
+            if (has(one)) {
+                acts[one.number] = one.doesAct();
+                marks[one.number] = place.wholeTimes(one.first, one.a);
             }
         }
 
@@ -913,28 +922,25 @@ public final class Linkwright {
             place.add(input, way, PARTS);
         }
 
-        void follow(int number, Link one) {
-            if (number < 0 || number >= MOST_LINKS || !acts[number]) {
-                return;
-            }
-            if (!turned.isMoving(one.first) && !turned.isMoving(one.second)) {
+        void follow(Link one) {
+            if (!doesAct(one) || !turned.isMoving(one.first) && !turned.isMoving(one.second)) {
                 return;
             }
             if (one.kind == GENEVA) {
                 turned.put(one.to, place.wholeTimes(one.first, 1) - before.wholeTimes(one.first, 1), one.a);
             } else if (one.kind == RATCHET) {
-                followRatchet(number, one);
+                followRatchet(one);
             } else {
                 one.carry(turned, one.over());
             }
             place.add(one.to, turned.overAt(one.to), turned.underAt(one.to));
         }
 
-        private void followRatchet(int number, Link one) {
+        private void followRatchet(Link one) {
             long reached = place.wholeTimes(one.first, one.a);
-            if (reached > marks[number]) {
-                turned.put(one.to, reached - marks[number], one.a);
-                marks[number] = reached;
+            if (has(one) && reached > marks[one.number]) {
+                turned.put(one.to, reached - marks[one.number], one.a);
+                marks[one.number] = reached;
             }
         }
     }

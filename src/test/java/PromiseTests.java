@@ -15,7 +15,7 @@ public final class PromiseTests {
   private static int promise = 0;
 
   public static void main(String[] args) {
-    newObject(); shaft(); link(); linkFar(); planets(); engage(); life(); slack();
+    newObject(); shaft(); link(); linkFar(); linkBackwards(); planets(); engage(); life(); slack();
     turn(); turnGears(); turnGeneva(); turnRatchet(); turnPlanets(); turnTogether();
     places(); ratios(); ratiosOnWays(); driver(); freedom(); worn(); broken(); repair(); repairRatchet(); slackOf();
     cam(); segment(); clear(); heights(); steeps(); wish(); make();
@@ -173,6 +173,22 @@ public final class PromiseTests {
     due(x.turn(0, 3), 12);
     due(place(x, 3), "1/8");
     due(x.isSound(), true);
+  }
+
+  /** Links made from the far end on: only the last one makes the way too long. */
+  private static void linkBackwards() {
+    promise = 3;
+    Linkwright x = shop(5);
+    x.link('k', 1, 0, 0, 0);
+    x.link('k', 2, 1, 0, 0);
+    x.link('k', 3, 2, 0, 0);
+    throwing(UNSUPPORTED, x, () -> x.link('k', 4, 3, 0, 0));
+    throwing(UNSUPPORTED, x, () -> x.link('k', 0, 3, 0, 0));
+    throwing(UNSUPPORTED, x, () -> x.planets(4, 1, 3, 6, 6));
+    throwing(UNSUPPORTED, x, () -> x.link('k', 4, 0, 0, 0));
+    due(x.freedom(), 2);
+    due(x.turn(3, 6), 4);
+    due(place(x, 0), "1/4");
   }
 
   private static void planets() {
@@ -595,6 +611,11 @@ public final class PromiseTests {
     x.planets(1, 2, 3, 6, 12);
     x.link('v', 4, 5, 4, 0);
     x.link('v', 5, 6, 4, 0);
+    Linkwright gears = shop(3);
+    gears.link('g', 0, 1, 6, 6);
+    gears.link('g', 1, 2, 6, 9);
+    gears.slack(0, 9);
+    due(slackOf(gears, 2), "6/1");
     x.link('r', 6, 7, 5, 0);
     x.link('k', 4, 8, 0, 0);
     x.link('k', 8, 9, 0, 0);
@@ -793,7 +814,15 @@ public final class PromiseTests {
     due(x.clear(0), 1);
     for (int i = 0; i < 24; i++) x.wish(0, i, i % 2);
     due(x.make(0, 'u', 1), 24);
+    due(steep(x, 0), "1/1");
+    due(height(x, 0), "1/1");
     due(x.wish(0, 3, -1), 23);
+    Linkwright y = shop(1);
+    y.cam(0);
+    y.wish(0, 0, 0);
+    y.wish(0, 2, 50);
+    throwing(UNSUPPORTED, y, () -> y.make(0, 'u', 24));
+    due(y.make(0, 'u', 25), 2);
   }
 
   private static void drum() {
@@ -857,6 +886,7 @@ public final class PromiseTests {
     x.turn(1, 48);
     due(x.struck(0, 0), 8);
     due(x.struck(0, 1), 0);
+    due(x.struck(0, 7), 0);
   }
 
   private static void struckByFastShaft() {
@@ -932,6 +962,7 @@ public final class PromiseTests {
     due(x.limitOver(10, 40, 30, 35, true), -5L);
     due(x.limitOver(10, 40, 30, 35, false), 7L);
     due(x.limitOver(3, 2, 4, 3, true), 0L);
+    due(x.limitOver(3, 2, 4, 4, false), 31L);
     throwing(MISSING, x, () -> x.limitOver(10, 10, 30, 35, false));
     throwing(MISSING, x, () -> x.limitOver(30, 35, 30, 35, true));
     throwing(MISSING, x, () -> x.limitOver(30, 36, 30, 35, true));
