@@ -785,8 +785,11 @@ public final class Linkwright {
 
         // Only the parts that the lower numbers do not share are multiplied: their whole product would be too great.
         void add(int at, long over, long under) {
-            long shared = Fraction.commonOf(underAt(at), under);
-            if (!has(at) || under <= 0 || shared <= 0) {
+            if (!has(at) || under <= 0) {
+                return;
+            }
+            long shared = Fraction.commonOf(unders[at], under);
+            if (shared <= 0) {
                 return;
             }
             long mine = unders[at] / shared;
