@@ -441,7 +441,7 @@ public final class BoundaryTests {
     pair(11, NO_SHAFT_EITHER,
         "ratio(0,0) throws Index; shaft(); ratio(0,0) = 1/1; ratio(1,0) throws Index; ratio(0,1) throws Index",
         shop(3) + refusedBad("ratio(#,0)", "Index", -1, 3) + refusedBad("ratio(0,#)", "Index",
-            -1, 3) + "ratio(2,2) = 1/1; ratio(2,0) = 0/1",
+        -1, 3) + "ratio(2,2) = 1/1; ratio(2,0) = 0/1",
         shop(14) + "link('k',0,13,0,0); ratio(14,0) throws Index; ratio(0,14) throws Index; ratio(13,0) = 1/1; ratio(0,12) = 0/1");
     pair(11, FIRST_ONE,
         shop(3) + "link('v',0,1,3,0); ratio(3,1) throws Index; ratio(-1,1) throws Index; ratio(1,3) throws Index;"
@@ -553,7 +553,7 @@ public final class BoundaryTests {
   private static void repair() {
     check(18, NO_LINK, shop(2) + "repair(0) throws Index; link('k',0,1,0,0); repair(1) throws Index",
         shop(2) + "link('k',0,1,0,0); life(0,1); turn(0,48);" + refusedBad("repair(#)", "Index",
-            -1, 1) + "isBroken(0) = true; repair(0) = 0",
+        -1, 1) + "isBroken(0) = true; repair(0) = 0",
         shopOfClutches(13) + "life(12,1); turn(0,48); repair(13) throws Index; repair(12) = 0");
     check(18, "Throws `UnsupportedOperationException` if it is not broken",
         shop(2) + "link('k',0,1,0,0); repair(0) throws Unsupported; turn(0,24); repair(0) throws Unsupported; worn(0) = 1/1;"
@@ -617,13 +617,13 @@ public final class BoundaryTests {
   private static void segment() {
     check(22, NO_CAM, "segment(0,1,0,'u') throws Index; shaft(); cam(0); segment(1,1,0,'u') throws Index; segment(0,1,0,'u') = 1",
         shop(1) + "cam(0);" + refusedBad("segment(#,1,0,'u')", "Index", -1, 1),
-            shop(1) + "cam(0);".repeat(8) + "segment(8,1,0,'u') throws Index; segment(7,1,0,'u') = 1");
+        shop(1) + "cam(0);".repeat(8) + "segment(8,1,0,'u') throws Index; segment(7,1,0,'u') = 1");
     check(22, "Throws `IllegalArgumentException` if a number is out of range, or there is no such law",
         shop(1) + "cam(0);" + refusedBad("segment(0,#,0,'u')", "Argument",
-            0, 25, -1) + "segment(0,1,0,'u') = 1; segment(0,0,0,'u') throws Argument; segment(0,23,0,'p') = 24",
+        0, 25, -1) + "segment(0,1,0,'u') = 1; segment(0,0,0,'u') throws Argument; segment(0,23,0,'p') = 24",
         shop(1) + "cam(0); segment(0,25,0,'p') throws Argument; segment(0,24,0,'p') = 24; clear(0) = 1",
         shop(1) + "cam(0);" + refusedBad("segment(0,1,#,'p')", "Argument",
-            -1, 100) + "segment(0,12,0,'u') = 12; segment(0,12,99,'u') = 24; heightOver(0) = 99",
+        -1, 100) + "segment(0,12,0,'u') = 12; segment(0,12,99,'u') = 24; heightOver(0) = 99",
         shop(1) + "cam(0);" + otherLaws("segment(0,1,0,#)") + "segment(0,1,0,'u') = 1; segment(0,1,0,'p') = 2");
     check(22, "each with parts, 1 to 24, a height, 0 to 99, to which it goes, and a law",
         shop(1) + "cam(0); segment(0,24,99,'u') = 24; height(0) = 99/1; clear(0) = 1; segment(0,24,0,'p') = 24; height(0) = 0/1");
@@ -658,7 +658,7 @@ public final class BoundaryTests {
   private static void clear() {
     check(23, NO_CAM, "clear(0) throws Index; shaft(); cam(0); clear(1) throws Index; clear(0) = 0",
         shop(1) + "cam(0); segment(0,1,0,'u');" + refusedBad("clear(#)", "Index", -1, 1) + "clear(0) = 1",
-            shop(1) + "cam(0);".repeat(8) + "clear(8) throws Index; clear(7) = 0");
+        shop(1) + "cam(0);".repeat(8) + "clear(8) throws Index; clear(7) = 0");
     check(23, "Returns how many there were.",
         shop(1) + "cam(0); clear(0) = 0; segment(0,24,0,'u'); clear(0) = 1; clear(0) = 0;" + "segment(0,1,5,'u');".repeat(24)
             + "clear(0) = 24; clear(0) = 0");
@@ -698,18 +698,18 @@ public final class BoundaryTests {
   }
 
   private static void heightRound() {
-    String[] shops = {shop(1) + "cam(0);", shop(1) + "cam(0);"};
     StringBuilder ones = new StringBuilder();
     for (int i = 0; i < 24; i++) ones.append("segment(0,1," + (i + 1) % 24 + ",'u');");
-    StringBuilder up = new StringBuilder(shops[0] + ones);
-    StringBuilder down = new StringBuilder(shops[1] + ones);
+    String one = shop(1) + "cam(0);" + ones;
+    StringBuilder up = new StringBuilder(one);
+    StringBuilder down = new StringBuilder(one);
     for (int i = 0; i <= 49; i++) up.append("heightOver(0) = " + i % 24 + "; heightUnder(0) = 1; turn(0,1);");
     for (int i = 0; i <= 49; i++) down.append("heightOver(0) = " + (48 - i % 24) % 24 + "; heightUnder(0) = 1; turn(0,-1);");
     String stands = "A cam stands at the part that is 24 times the place of its shaft, rounded down, modulo 24: as many parts behind the"
         + " beginning of the first segment.";
     pair(24, stands, up.toString(), down.toString(),
-        shops[0] + ones + "turn(0,23); height(0) = 23/1; turn(0,1); height(0) = 0/1; turn(0,-1); height(0) = 23/1",
-        shops[0] + ones + "turn(0,-1); height(0) = 23/1; turn(0,-23); height(0) = 0/1; turn(0,-1); height(0) = 23/1; turn(0,1);"
+        one + "turn(0,23); height(0) = 23/1; turn(0,1); height(0) = 0/1; turn(0,-1); height(0) = 23/1",
+        one + "turn(0,-1); height(0) = 23/1; turn(0,-23); height(0) = 0/1; turn(0,-1); height(0) = 23/1; turn(0,1);"
             + "height(0) = 0/1",
         shop(2) + "link('i',0,1,6,7); cam(1);" + ones + "turn(0,1); height(0) = 0/1; turn(0,1); height(0) = 1/1; turn(0,-2);"
             + "height(0) = 0/1; turn(0,-1); height(0) = 23/1; turn(0,-1); height(0) = 22/1",
@@ -729,12 +729,12 @@ public final class BoundaryTests {
         shop(1) + "cam(0); segment(0,24,99,'p'); steep(0) = 0/1",
         shop(1) + "cam(0); segment(0,12,0,'u'); segment(0,12,99,'u'); steep(0) = 33/4",
         shop(1) + "cam(0); segment(0,12,0,'u'); segment(0,12,99,'p'); steep(0) = 33/2",
-            shop(1) + "cam(0); segment(0,12,0,'p'); segment(0,12,99,'u'); steep(0) = 33/2",
+        shop(1) + "cam(0); segment(0,12,0,'p'); segment(0,12,99,'u'); steep(0) = 33/2",
         shop(1) + "cam(0); segment(0,1,99,'u'); segment(0,23,0,'u'); steep(0) = 99/1",
-            shop(1) + "cam(0); segment(0,23,99,'u'); segment(0,1,0,'p'); steep(0) = 198/1",
+        shop(1) + "cam(0); segment(0,23,99,'u'); segment(0,1,0,'p'); steep(0) = 198/1",
         shop(1) + "cam(0); segment(0,8,10,'u'); segment(0,8,20,'u'); segment(0,8,0,'u'); steep(0) = 5/2; turn(0,1); steep(0) = 5/2",
         shop(1) + "cam(0); segment(0,23,1,'u'); segment(0,1,1,'u'); steep(0) = 0/1",
-            shop(1) + "cam(0); segment(0,10,4,'u'); segment(0,14,0,'p'); steep(0) = 4/7");
+        shop(1) + "cam(0); segment(0,10,4,'u'); segment(0,14,0,'p'); steep(0) = 4/7");
   }
 
   // Promises 28 and 29
@@ -742,7 +742,7 @@ public final class BoundaryTests {
   private static void wish() {
     check(28, NO_CAM, "wish(0,0,0) throws Index; shaft(); cam(0); wish(1,0,0) throws Index; wish(0,0,0) = 1",
         shop(1) + "cam(0);" + refusedBad("wish(#,0,0)", "Index", -1, 1),
-            shop(1) + "cam(0);".repeat(8) + "wish(8,0,0) throws Index; wish(7,0,0) = 1; wish(6,1,1) = 1");
+        shop(1) + "cam(0);".repeat(8) + "wish(8,0,0) throws Index; wish(7,0,0) = 1; wish(6,1,1) = 1");
     check(28, NUMBER_OUT,
         shop(1) + "cam(0);" + refusedBad("wish(0,#,5)", "Argument", -1, 24) + "wish(0,0,5) = 1; wish(0,23,5) = 2;"
             + "wish(0,24,-1) throws Argument; wish(0,22,-1) = 2",
@@ -763,11 +763,11 @@ public final class BoundaryTests {
   private static void make() {
     check(29, NO_CAM, "make(0,'u',1) throws Index; shaft(); cam(0); wish(0,0,0); make(1,'u',1) throws Index; make(0,'u',1) = 1",
         shop(1) + "cam(0); wish(0,0,0);" + refusedBad("make(#,'u',1)", "Index", -1, 1),
-            shop(1) + "cam(0);".repeat(8) + "wish(7,0,0); make(8,'u',1) throws Index; make(7,'u',1) = 1");
+        shop(1) + "cam(0);".repeat(8) + "wish(7,0,0); make(8,'u',1) throws Index; make(7,'u',1) = 1");
     check(29, "Throws `IllegalArgumentException` if there is no such law, or the bound is out of range",
         shop(1) + "cam(0); wish(0,0,0);" + otherLaws("make(0,#,9)") + "make(0,'u',9) = 1; make(0,'p',9) = 1",
         shop(1) + "cam(0); wish(0,0,0);" + refusedBad("make(0,'u',#)", "Argument",
-            0, 100, -1) + "make(0,'u',1) = 1; make(0,'u',99) = 1; make(0,'u',100) throws Argument; make(0,'p',1) = 1");
+        0, 100, -1) + "make(0,'u',1) = 1; make(0,'u',99) = 1; make(0,'u',100) throws Argument; make(0,'p',1) = 1");
     check(29, "`bound`: the bound, 1 to 99",
         shop(1) + "cam(0); wish(0,0,0); wish(0,1,1); make(0,'u',0) throws Argument; make(0,'u',1) = 2; wish(0,1,99);"
             + "make(0,'u',98) throws Unsupported; make(0,'u',100) throws Argument; make(0,'u',99) = 2; steep(0) = 99/1");
@@ -830,12 +830,12 @@ public final class BoundaryTests {
   private static void pin() {
     check(31, NO_DRUM, "pin(0,0,0,true) throws Index; shaft(); drum(0); pin(1,0,0,true) throws Index; pin(0,0,0,true) = false",
         shop(1) + "drum(0);" + refusedBad("pin(#,0,0,true)", "Index", -1, 1),
-            shop(1) + "drum(0);".repeat(4) + "pin(4,0,0,true) throws Index; pin(3,0,0,true) = false; pin(2,0,0,true) = false");
+        shop(1) + "drum(0);".repeat(4) + "pin(4,0,0,true) throws Index; pin(3,0,0,true) = false; pin(2,0,0,true) = false");
     check(31, NUMBER_OUT,
         shop(1) + "drum(0);" + refusedBad("pin(0,#,0,true)", "Argument", -1, 24) + refusedBad("pin(0,#,7,false)", "Argument",
-            -1, 24) + "pin(0,0,0,true) = false; pin(0,23,0,true) = false",
+        -1, 24) + "pin(0,0,0,true) = false; pin(0,23,0,true) = false",
         shop(1) + "drum(0);" + refusedBad("pin(0,0,#,true)", "Argument", -1, 8, 32, -32) + refusedBad("pin(0,23,#,false)", "Argument",
-            -1, 8) + "pin(0,0,0,true) = false; pin(0,0,7,true) = false");
+        -1, 8) + "pin(0,0,0,true) = false; pin(0,0,7,true) = false");
     check(31, "`part`: the part, 0 to 23",
         shop(1) + "drum(0); pin(0,0,3,true) = false; pin(0,23,3,true) = false; turn(0,22); struck(0,3) = 0; turn(0,1); struck(0,3) = 1;"
             + "turn(0,1); struck(0,3) = 2");
@@ -854,7 +854,7 @@ public final class BoundaryTests {
   private static void struck() {
     check(32, NO_DRUM, "struck(0,0) throws Index; shaft(); drum(0); struck(1,0) throws Index; struck(0,0) = 0",
         shop(1) + "drum(0);" + refusedBad("struck(#,0)", "Index", -1, 1),
-            shop(1) + "drum(0);".repeat(4) + "struck(4,0) throws Index; struck(3,0) = 0");
+        shop(1) + "drum(0);".repeat(4) + "struck(4,0) throws Index; struck(3,0) = 0");
     check(32, OUT_OF_RANGE, shop(1) + "drum(0); pin(0,1,0,true); pin(0,1,7,true);" + refusedBad("struck(0,#)", "Argument",
         -1, 8) + "turn(0,1); struck(0,0) = 1; struck(0,7) = 1; struck(0,8) throws Argument");
     check(32, "`track`: the track, 0 to 7",
@@ -905,11 +905,11 @@ public final class BoundaryTests {
             + " follower, 'd' if the ground, 'o' if the coupler; of several shortest ones the first one in this order;"
             + " 'e' with as much, 't' with more.",
         "bars(10,40,30,21) = 'c'; bars(10,40,30,20) = 'e'; bars(10,40,30,19) = 't'",
-            "bars(30,40,10,21) = 'r'; bars(30,40,10,20) = 'e'; bars(30,40,10,19) = 't'",
+        "bars(30,40,10,21) = 'r'; bars(30,40,10,20) = 'e'; bars(30,40,10,19) = 't'",
         "bars(30,40,21,10) = 'd'; bars(30,40,20,10) = 'e'; bars(30,40,19,10) = 't'",
-            "bars(30,10,40,21) = 'o'; bars(30,10,40,20) = 'e'; bars(30,10,40,19) = 't'",
+        "bars(30,10,40,21) = 'o'; bars(30,10,40,20) = 'e'; bars(30,10,40,19) = 't'",
         "bars(1,2,2,2) = 'c'; bars(2,1,2,2) = 'o'; bars(2,2,1,2) = 'r'; bars(2,2,2,1) = 'd'",
-            "bars(1,1,2,2) = 'e'; bars(1,2,1,2) = 'e'; bars(2,1,1,2) = 'e'; bars(5,5,6,7) = 't'; bars(7,6,5,5) = 't'; bars(2,2,2,3) = 't'");
+        "bars(1,1,2,2) = 'e'; bars(1,2,1,2) = 'e'; bars(2,1,1,2) = 'e'; bars(5,5,6,7) = 't'; bars(7,6,5,5) = 't'; bars(2,2,2,3) = 't'");
   }
 
   /** The call with four bars in place of the sign @, each of them in turn too short or too long. */
@@ -1039,7 +1039,7 @@ public final class BoundaryTests {
     check(41, "Returns their number divided by that of all, both converted to float.", shop(14) + "drivenShare() = 0.0",
         shop(2) + "link('k',0,1,0,0); drivenShare() = 0.5",
         shop(3) + "planets(0,1,2,6,6); drivenShare() = " + 1f / 3f, shop(2) + "link('k',1,0,0,0); drivenShare() = 0.5",
-            shopOfClutches(13) + "drivenShare() = " + 13f / 14f);
+        shopOfClutches(13) + "drivenShare() = " + 13f / 14f);
   }
 
   private static void meanWorn() {
