@@ -11,6 +11,7 @@ public final class Linkwright {
     private static final int MOST_DRUMS = 4;
     private static final int PARTS = 24;
     private static final int TRACKS = 8;
+    private static final long MOST_PASSED = 100000;
     private static final int MOST_STEPS = 48;
     private static final int MOST_LIFE = 999;
     private static final int MOST_SLACK = 99;
@@ -1095,9 +1096,10 @@ public final class Linkwright {
 
         /** Strikes the pins of each number gone up to, or down from. */
         void pass(long from, long to) {
-            long last = Math.max(from, to);
-            for (long number = Math.min(from, to) + 1; number <= last; number++) {
-                strikePart((int) Math.floorMod(number, (long) PARTS));
+            long first = Math.min(from, to);
+            long count = Math.min(Math.max(from, to) - first, MOST_PASSED);
+            for (long i = 1; i <= count; i++) {
+                strikePart((int) Math.floorMod(first + i, (long) PARTS));
             }
         }
 
